@@ -751,17 +751,20 @@ public final class DrawerWall {
             return judge(set) >> FED_SHIFT;
         }
 
+        /** All three answers at once, in the bits of a number. */
         private int judge(int set) {
             if (set < 0 || set >= verdicts.length) {
                 return 0;
             }
             if (verdicts[set] == 0) {
-                verdicts[set] = JUDGED | (isSound(set) ? CAN_BE : 0)
+                boolean canBe = isSound(set) && leastBroken(set) == NONE;
+                verdicts[set] = JUDGED | (canBe ? CAN_BE : 0)
                     | climb(set) << REACHED_SHIFT | people.withBoth(set) << FED_SHIFT;
             }
             return verdicts[set];
         }
 
+        /** Whether it can be, but for the rules. */
         private boolean isSound(int set) {
             if ((set & drawers.graves) != 0) {
                 return false;
@@ -771,7 +774,7 @@ public final class DrawerWall {
                     return false;
                 }
             }
-            return leastBroken(set) == NONE;
+            return true;
         }
 
         /** From the lowest story up, since only lower ones carry a hand. */
@@ -1168,6 +1171,12 @@ public final class DrawerWall {
     private static final class ExprReader {
         private static final int MOST_WITHIN = 6;
         private static final int MOST_NOTS = 6;
+        private static final int OR_LEVEL = 0;
+        private static final int AND_LEVEL = 1;
+        private static final int NOT_LEVEL = 2;
+        private static final int TEST_LEVEL = 3;
+        private static final int SUM_LEVEL = 4;
+        private static final int PART_LEVEL = 6;
 
         private final Tokens tokens;
         private final Rules rules;
@@ -1183,31 +1192,42 @@ public final class DrawerWall {
                 boolean canStand = tokens.isNumber() || tokens.isAnyWord() || tokens.isSign('(');
                 return tokens.refuse(canStand ? CityReader.TOO_MUCH : CityReader.CAN_NOT_STAND);
             }
-            if (!readAnd(within)) {
+            return readLevel(OR_LEVEL, within);
+        }
+
+        /** What the signs of a level join is of the next level. */
+        private boolean readLevel(int level, int within) {
+            if (level == NOT_LEVEL) {
+                return readNot(within);
+            }
+            if (level >= PART_LEVEL) {
+                return readPart(within);
+            }
+            if (!readLevel(level + 1, within)) {
                 return false;
             }
-            for (int i = 0; i < MOST_BYTES && tokens.isWord("or"); i++) {
+            int most = level == TEST_LEVEL ? 1 : MOST_BYTES;
+            int sign = signTold(level);
+            for (int i = 0; i < most && sign != 0; i++) {
                 tokens.advance();
-                if (!readAnd(within)) {
+                if (!readLevel(level + 1, within)) {
                     return false;
                 }
-                rules.add(Rules.OR);
+                rules.add(sign);
+                sign = signTold(level);
             }
             return true;
         }
 
-        private boolean readAnd(int within) {
-            if (!readNot(within)) {
-                return false;
+        /** The code of the sign, if it is one of a level; else 0. */
+        private int signTold(int level) {
+            switch (level) {
+                case OR_LEVEL: return tokens.isWord("or") ? Rules.OR : 0;
+                case AND_LEVEL: return tokens.isWord("and") ? Rules.AND : 0;
+                case TEST_LEVEL: return tokens.isSign('<') ? Rules.LESS : tokens.isSign('=') ? Rules.SAME : 0;
+                case SUM_LEVEL: return tokens.isSign('+') ? Rules.ADD : tokens.isSign('-') ? Rules.SUBTRACT : 0;
+                default: return tokens.isSign('*') ? Rules.MULTIPLY : tokens.isSign('/') ? Rules.DIVIDE : 0;
             }
-            for (int i = 0; i < MOST_BYTES && tokens.isWord("and"); i++) {
-                tokens.advance();
-                if (!readNot(within)) {
-                    return false;
-                }
-                rules.add(Rules.AND);
-            }
-            return true;
         }
 
         private boolean readNot(int within) {
@@ -1216,60 +1236,14 @@ public final class DrawerWall {
                 tokens.advance();
                 nots++;
             }
-            if (nots == MOST_NOTS && tokens.isWord("not")) {
+            if (tokens.isWord("not")) {
                 return tokens.refuse(CityReader.TOO_MUCH);
             }
-            if (!readTest(within)) {
+            if (!readLevel(TEST_LEVEL, within)) {
                 return false;
             }
             for (int i = 0; i < nots; i++) {
                 rules.add(Rules.NOT);
-            }
-            return true;
-        }
-
-        private boolean readTest(int within) {
-            if (!readSum(within)) {
-                return false;
-            }
-            if (!tokens.isSign('<') && !tokens.isSign('=')) {
-                return true;
-            }
-            int sign = tokens.isSign('<') ? Rules.LESS : Rules.SAME;
-            tokens.advance();
-            if (!readSum(within)) {
-                return false;
-            }
-            rules.add(sign);
-            return true;
-        }
-
-        private boolean readSum(int within) {
-            if (!readProduct(within)) {
-                return false;
-            }
-            for (int i = 0; i < MOST_BYTES && (tokens.isSign('+') || tokens.isSign('-')); i++) {
-                int sign = tokens.isSign('+') ? Rules.ADD : Rules.SUBTRACT;
-                tokens.advance();
-                if (!readProduct(within)) {
-                    return false;
-                }
-                rules.add(sign);
-            }
-            return true;
-        }
-
-        private boolean readProduct(int within) {
-            if (!readPart(within)) {
-                return false;
-            }
-            for (int i = 0; i < MOST_BYTES && (tokens.isSign('*') || tokens.isSign('/')); i++) {
-                int sign = tokens.isSign('*') ? Rules.MULTIPLY : Rules.DIVIDE;
-                tokens.advance();
-                if (!readPart(within)) {
-                    return false;
-                }
-                rules.add(sign);
             }
             return true;
         }
@@ -1358,7 +1332,7 @@ public final class DrawerWall {
             if ((first & mask) == goal) {
                 return 0;
             }
-            for (int at = 0; at < size; at++) {
+            for (int at = 0; at < size && at < found.length; at++) {
                 int state = found[at] & STATE_MASK;
                 int out = state & outMask;
                 int movable = city.reachedBy(out) & ~asleep;
