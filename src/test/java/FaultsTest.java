@@ -52,6 +52,8 @@ public final class FaultsTest {
         fault(1, "home 0 0 1;person 0 @0;");
         fault(1, "home 0 0 1;person @wants 0;");
         fault(1, "@homes 0 0 1;");
+        fault(1, "@come 0 0 1;");
+        fault(1, "@hom 0 0 1;");
         fault(1, "rule @;");
         fault(1, "rule 1 @1;");
         fault(1, "rule 1 @out;");
@@ -144,6 +146,10 @@ public final class FaultsTest {
 
     private static void unknown() {
         fault(3, "rule @foo;");
+        fault(3, "rule @zz;");
+        fault(3, "rule @a;");
+        fault(3, "rule 1 + @nout;");
+        fault(3, "rule @aut;");
         fault(3, "rule @and 1;");
         fault(3, "rule 1 or @or;");
         fault(3, "rule 1 + @not 1;");

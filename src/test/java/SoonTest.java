@@ -12,6 +12,7 @@ public final class SoonTest {
         harm();
         married();
         marriedIsWide();
+        marriedAmongOthers();
         canNotMarry();
         Checks.end();
     }
@@ -167,6 +168,25 @@ public final class SoonTest {
         Checks.same("in the lower column", rule.married(1, 0), UNMARRIED);
         DrawerWall above = Checks.wall("home 0 0 4;home 1 0 2;shop 1 1 3;person 0 wants 2;rule above = 0 or column = 0;");
         Checks.same("above the second column", above.married(0, 1), 0);
+    }
+
+    private static void marriedAmongOthers() {
+        DrawerWall beside = Checks.wall("wall 4 4;home 0 1 5;home 1 1 4;stove 2 0 2;shop 3 0 4;person 0 wants 3;");
+        beside.move(2);
+        Checks.same("the stove is beside", beside.married(0, 1), 0);
+        DrawerWall blocked = Checks.wall("home 0 1 1;home 1 1 2;shop 2 0 4;stove 1 0 2;person 0 wants 2;");
+        blocked.move(3);
+        blocked.sleeps(3, true);
+        Checks.same("the stove sleeps in the way", blocked.married(0, 1), UNMARRIED);
+        DrawerWall gone = Checks.wall("home 0 0 5;home 1 0 5;shop 2 0 5;person 0 wants 2;rule kind = 0 or 2 < out;");
+        Checks.same("three are out", gone.bread(), 3);
+        Checks.same("one of the three is no drawer", gone.married(0, 1), UNMARRIED);
+        Checks.same("nor is the other", gone.married(1, 0), UNMARRIED);
+        DrawerWall rules = Checks.wall("home 0 0 5;home 1 0 3;shop 2 0 5;person 1 wants 2;rule 1;rule 1;rule 1;"
+            + "rule length = 3 or kind = 1;");
+        Checks.same("against the fourth rule", rules.married(0, 1), UNMARRIED);
+        DrawerWall reach = Checks.wall("wall 2 9;reach 3;home 0 2 5;home 1 2 4;shop 1 5 3;person 0 wants 2;");
+        Checks.same("a foothold of both", reach.married(0, 1), -1);
     }
 
     private static void canNotMarry() {

@@ -82,7 +82,7 @@ public final class TapeTest {
         w.opens(1);
         w.image();
         Checks.same("hurt", w.person(0, 4), 1);
-        Checks.same("a new city", Checks.tell(w, "home 0 0 3;shop 1 0 2;person 0 wants 1;"), 0);
+        Checks.same("a new city", Checks.tell(w, "home 0 0 3;shop 1 0 2;home 0 1 1;person 0 wants 1;"), 0);
         Checks.same("nothing is out", w.count(6), 0);
         Checks.same("no moves", w.count(7), 0);
         Checks.same("no bread", w.count(8), 0);
@@ -91,6 +91,7 @@ public final class TapeTest {
         Checks.same("reach", w.count(4), 2);
         Checks.same("rules", w.count(5), 0);
         Checks.same("rent", w.rent(), 0);
+        Checks.same("rent by height", w.drawer(2, 7), 0);
         Checks.same("what was refused stays", w.count(12), 1);
         Checks.same("the image is gone", w.restore(), false);
         Checks.noSuchElement("the row is gone", () -> w.row(DrawerWall.NONE));
