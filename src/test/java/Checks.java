@@ -71,6 +71,64 @@ final class Checks {
         return wall;
     }
 
+    /** A FAULT whose place is where the text has its '@', which is left out; without one it is the text's length. */
+    static void fault(int fault, String marked) {
+        int place = marked.indexOf('@');
+        String text = place < 0 ? marked : marked.substring(0, place) + marked.substring(place + 1);
+        DrawerWall wall = new DrawerWall();
+        same("city: " + marked, tell(wall, text), fault);
+        same("fault: " + marked, wall.fault(), place < 0 ? text.length() : place);
+        same("refused: " + marked, wall.count(11), 1);
+        same("no drawers: " + marked, wall.count(2), 0);
+    }
+
+    /** A text without a FAULT. */
+    static void fine(String text) {
+        same("fault: " + text, wall(text).fault(), DrawerWall.NONE);
+    }
+
+    /** All that can be asked of a wall without changing it, for a look at what stays. */
+    static String all(DrawerWall wall) {
+        StringBuilder all = new StringBuilder();
+        for (int what = 0; what <= 12; what++) {
+            all.append(wall.count(what)).append(' ');
+        }
+        for (int d = 0; d < wall.count(2); d++) {
+            for (int what = 0; what <= 7; what++) {
+                all.append(what == 0 ? " | " : " ").append(wall.drawer(d, what));
+            }
+        }
+        for (int p = 0; p < wall.count(3); p++) {
+            for (int what = 0; what <= 4; what++) {
+                all.append(what == 0 ? " : " : " ").append(wall.person(p, what));
+            }
+        }
+        all.append(" fault ").append(wall.fault()).append(" row ").append(rowOf(wall));
+        return all.toString();
+    }
+
+    private static String rowOf(DrawerWall wall) {
+        StringBuilder row = new StringBuilder();
+        try {
+            int length = wall.row(DrawerWall.NONE);
+            for (int i = 0; i < length; i++) {
+                row.append(wall.row(i)).append(' ');
+            }
+        } catch (NoSuchElementException e) {
+            row.append("none");
+        }
+        return row.toString();
+    }
+
+    /** Whether a wall is as it was; the text of it was made by all(). */
+    static void stays(String call, DrawerWall wall, String was) {
+        String is = all(wall);
+        if (!is.equals(was)) {
+            wrong++;
+            System.out.println(call + " changed " + was + " into " + is);
+        }
+    }
+
     static void row(String name, DrawerWall wall, int... due) {
         same(name + " row(NONE)", wall.row(DrawerWall.NONE), due.length);
         for (int i = 0; i < due.length && i < wall.row(DrawerWall.NONE); i++) {

@@ -17,20 +17,12 @@ public final class FaultsTest {
         Checks.end();
     }
 
-    /** The place is where the text has its first '@', which is left out; without one it is the text's length. */
     private static void fault(int fault, String marked) {
-        int place = marked.indexOf('@');
-        String text = place < 0 ? marked : marked.substring(0, place) + marked.substring(place + 1);
-        DrawerWall w = new DrawerWall();
-        Checks.same("city: " + marked, Checks.tell(w, text), fault);
-        Checks.same("fault: " + marked, w.fault(), place < 0 ? text.length() : place);
-        Checks.same("refused: " + marked, w.count(11), 1);
+        Checks.fault(fault, marked);
     }
 
     private static void fine(String text) {
-        DrawerWall w = new DrawerWall();
-        Checks.same("city: " + text, Checks.tell(w, text), 0);
-        Checks.same("fault: " + text, w.fault(), DrawerWall.NONE);
+        Checks.fine(text);
     }
 
     private static void canNotStand() {
