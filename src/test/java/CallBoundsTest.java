@@ -164,10 +164,14 @@ public final class CallBoundsTest {
         w.wind(1, 60);
         w.image();
         Checks.same("HURT", w.person(0, 4), 1);
+        Checks.same("a sleeper is in", w.move(0), 2);
+        w.sleeps(0, false);
+        Checks.same("one is out", w.move(0), 0);
+        w.sleeps(0, true);
         String more = "home 0 0 9;home 1 0 9;person 0;";
         Checks.feed(w, more);
         Checks.same("a city behind what lay on the tape", w.city(20 + more.length()), 0);
-        Checks.stays("a city", w, "3 4 2 1 4 0 0 0 0 0 0 1 1 "
+        Checks.stays("a city", w, "3 4 2 1 4 0 0 0 0 0 0 1 2 "
             + " | 0 0 0 9 0 0 1 0 | 0 1 0 9 0 0 1 0 : 0 -1 1 0 0 fault -1 row none");
         Checks.same("no image", w.restore(), false);
         Checks.same("no MOVES", w.undo(), NONE);

@@ -26,6 +26,7 @@ public final class RuleBoundsTest {
         inOneColumn();
         noGraveIsOut();
         allRulesHoldForEachThatIsOut();
+        fourRulesThatHold();
         nothingIsOut();
         theLeastRule();
         Checks.end();
@@ -252,6 +253,14 @@ public final class RuleBoundsTest {
         Checks.same("the second doesn't", w.may(0b001), false);
         Checks.same("not for one of two", w.may(0b110), false);
         Checks.same("not for the other", w.may(0b011), false);
+    }
+
+    private static void fourRulesThatHold() {
+        DrawerWall w = Checks.wall("home 0 0 1;home 1 0 1;rule 1;rule out<3;rule column<2;rule length=1;");
+        for (int set = 0; set < 4; set++) {
+            Checks.same("may " + set, w.may(set), true);
+            Checks.same("broken by " + set, w.broken(set), DrawerWall.NONE);
+        }
     }
 
     private static void nothingIsOut() {

@@ -22,6 +22,7 @@ public final class SoonBoundsTest {
         behindHundredMoves();
         searchingChangesNothing();
         harmOfOthers();
+        harmOfTheLeastNumber();
         harmAsItIsNow();
         harmOfOneThatCanNotMove();
         sideBySide();
@@ -34,6 +35,7 @@ public final class SoonBoundsTest {
         inPlaceOfBoth();
         bothWhoLiveThere();
         theOtherNumberIsNoDrawer();
+        allElseIsAsItWas();
         laterOrSooner();
         allDoNotHaveBread();
         marryingChangesNothing();
@@ -281,6 +283,14 @@ public final class SoonBoundsTest {
         Checks.same("without others", Checks.wall("home 0 0 1;").harm(0), 0);
     }
 
+    private static void harmOfTheLeastNumber() {
+        DrawerWall w = Checks.wall("wall 1 9;home 0 5 4;home 0 3 6;home 0 1 8;");
+        int[] due = {0, 1, 2};
+        for (int d = 0; d < due.length; d++) {
+            Checks.same("harm(" + d + ") of a ladder from its end", w.harm(d), due[d]);
+        }
+    }
+
     private static void harmAsItIsNow() {
         DrawerWall below = Checks.wall(LADDER);
         below.move(0);
@@ -402,6 +412,19 @@ public final class SoonBoundsTest {
             + "rule not story=0 or above<2;");
         below.move(2);
         Checks.same("it isn't above another, too", below.married(0, 1), 0);
+    }
+
+    /** All else is as it was: RULES, REACH, STORIES, wide ones. */
+    private static void allElseIsAsItWas() {
+        String four = "home 0 0 5;home 1 0 3;shop 2 0 5;person 1 wants 2;rule out<3;rule 1;rule column<3;rule length=";
+        Checks.same("against the fourth RULE", Checks.wall(four + "3 or kind=1;").married(0, 1), UNMARRIED);
+        Checks.same("by the fourth RULE", Checks.wall(four + "5 or kind=0;").married(0, 1), 0);
+        String high = "wall 3 9;home 0 2 5;home 1 2 4;shop 1 6 3;person 1 wants 2;reach ";
+        Checks.same("by a REACH of 4", Checks.wall(high + "4;").married(0, 1), 0);
+        Checks.same("by a REACH of 3", Checks.wall(high + "3;").married(0, 1), UNMARRIED);
+        DrawerWall wide = Checks.wall("wall 4 9;home 0 2 5;home 1 2 4;stove 1 0 9 wide;shop 2 2 3;person 1 wants 3;reach 2;");
+        Checks.same("over a wide one", wide.bread(), 3);
+        Checks.same("over a wide one, married", wide.married(0, 1), 0);
     }
 
     private static void laterOrSooner() {

@@ -11,6 +11,7 @@ public final class TextBoundsTest {
         everyByteAlone();
         everyByteBehindANumber();
         wordsAreTheLongestRow();
+        everyLetterCounts();
         numbersHaveOneToFourDigits();
         blanksCountForNothing();
         anyNumberOfLines();
@@ -20,6 +21,7 @@ public final class TextBoundsTest {
         perhapsAndInOrder();
         theFirstFaultAlongTheText();
         theTextsLengthWhereItEndsTooSoon();
+        aTokenEndsWithTheText();
         fiveDigitsAreTooMuch();
         aNumberInAnExprIsAsItIs();
         tooManyOfAKind();
@@ -101,10 +103,35 @@ public final class TextBoundsTest {
         Checks.fault(3, "rule @notout;");
         Checks.fault(1, "rule 1 @andout;");
         Checks.fine("home0 0 1wide;rule not(out)and 1or 2;");
+        Checks.fault(3, "rule @a;");
+        Checks.fault(3, "rule @z;");
+        Checks.fault(3, "rule @outz;");
         Checks.fault(1, "rule @{a;");
         Checks.fault(1, "rule @`;");
         Checks.fault(1, "rule @Out;");
         Checks.fault(1, "rule out@A;");
+    }
+
+    /** A word with one letter changed is another word. */
+    private static void everyLetterCounts() {
+        String[] words = {"wall", "home", "shop", "grave", "stove", "person", "reach", "rent", "wind", "rule"};
+        for (String word : words) {
+            for (int i = 0; i < word.length(); i++) {
+                Checks.fault(1, "@" + word.substring(0, i) + "q" + word.substring(i + 1) + " 1 1 1;");
+            }
+        }
+        String two = "home 0 0 1;shop 1 0 1;";
+        String[] lines = {"home 0 1 1 @wide;", "person 0 @wants 1;", "person 0 @weight 1;", "rule 1 @and 1;", "rule 1 @or 1;"};
+        for (String line : lines) {
+            Checks.fine(two + line.replace("@", ""));
+            int at = line.indexOf('@');
+            for (int i = at + 1; isLetter(line.charAt(i)); i++) {
+                Checks.fault(1, two + line.substring(0, i) + "q" + line.substring(i + 1));
+            }
+        }
+        for (int i = 0; i < 3; i++) {
+            Checks.fault(3, "rule @" + "not".substring(0, i) + "q" + "not".substring(i + 1) + " 1;");
+        }
     }
 
     private static void numbersHaveOneToFourDigits() {
@@ -205,6 +232,25 @@ public final class TextBoundsTest {
         Checks.fault(3, "rule @ou");
     }
 
+    private static void cut(String text, int n, int fault, int place) {
+        DrawerWall w = new DrawerWall();
+        Checks.feed(w, text);
+        Checks.same("the first " + n + " of " + text, w.city(n), fault);
+        Checks.same("its place", w.fault(), place);
+    }
+
+    /** What lies on the tape behind the text is no part of its last TOKEN. */
+    private static void aTokenEndsWithTheText() {
+        cut("reach 25;", 7, 1, 7);
+        cut("reach 25;", 8, 2, 6);
+        cut("rule outs;", 8, 1, 8);
+        cut("rule outs;", 9, 3, 5);
+        cut("rule 12345;", 9, 1, 9);
+        cut("rule 12345;", 10, 2, 5);
+        cut("reach 5;x", 8, 0, DrawerWall.NONE);
+        cut("reach 5;x", 9, 1, 8);
+    }
+
     private static boolean isLetter(char c) {
         return c >= 'a' && c <= 'z';
     }
@@ -285,6 +331,9 @@ public final class TextBoundsTest {
             Checks.fine("rule 1+" + value + ";");
             Checks.fault(3, "rule @" + value + "s;");
             Checks.fault(3, "rule @" + value.substring(1) + ";");
+            for (int i = 0; i < value.length(); i++) {
+                Checks.fault(3, "rule @" + value.substring(0, i) + "q" + value.substring(i + 1) + ";");
+            }
         }
         String[] places = {"", "(", "not ", "1+", "1-", "1*", "1/", "1<", "1=", "1 and ", "1 or "};
         for (String ahead : places) {

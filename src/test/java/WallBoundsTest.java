@@ -216,8 +216,12 @@ public final class WallBoundsTest {
 
     private static void chanceIsZeroWithout() {
         DrawerWall w = Checks.wall("wind 1000;home 0 0 9;");
-        Checks.same("a text without", Checks.tell(w, "home 0 0 9;"), 0);
-        w.move(0);
-        Checks.same("CHANCE without", w.wind(1, 60), 0);
+        for (int i = 0; i < 3; i++) {
+            Checks.same("a text without", Checks.tell(w, "home 0 0 9;"), 0);
+            w.move(0);
+            for (int seed = 0; seed < 20; seed++) {
+                Checks.same("CHANCE without, by " + seed, w.wind(seed, 60), 0);
+            }
+        }
     }
 }

@@ -34,6 +34,7 @@ public final class WindBoundsTest {
         statusCountsTexts();
         statusCountsMoves();
         anImageKeeps();
+        anImageKeepsWhatIsUndone();
         anImageInPlaceOfAnother();
         noImage();
         Checks.end();
@@ -225,6 +226,13 @@ public final class WindBoundsTest {
         Checks.same("who lives there", w.person(0, 4), 1);
         Checks.same("who doesn't sleep", w.person(1, 4), 0);
         Checks.same("both who live there", w.person(2, 4), 1);
+        DrawerWall five = Checks.wall("wind 1000;home 0 0 1;home 1 0 1;person 0;person 1;person 0;person 1;person 0;");
+        five.move(0);
+        five.sleeps(0, true);
+        five.wind(1, 1);
+        for (int p = 0; p < 5; p++) {
+            Checks.same("of five: " + p, five.person(p, 4), p % 2 == 0 ? 1 : 0);
+        }
         DrawerWall in = Checks.wall("wind 1000;home 0 0 1;person 0;");
         in.sleeps(0, true);
         in.wind(1, 60);
@@ -472,10 +480,14 @@ public final class WindBoundsTest {
         w.sleeps(2, true);
         w.sleeps(1, false);
         w.move(5);
+        Checks.same("one more text is refused", Checks.tell(w, "x"), 1);
         Checks.same("as it was", w.restore(), true);
         Checks.stays("restore behind MOVES", w, was);
         w.undo();
         w.undo();
+        w.move(2);
+        w.sleeps(1, false);
+        w.move(1);
         w.move(2);
         Checks.same("as it was again", w.restore(), true);
         Checks.stays("restore behind undo", w, was);
@@ -488,6 +500,34 @@ public final class WindBoundsTest {
         Checks.same("what is out", w.count(6), 1);
         Checks.same("bread", w.count(8), 0);
         Checks.same("MOVES are there, all", w.undo(), 0);
+        Checks.same("nothing is out", w.count(6), 0);
+        w.move(2);
+        w.move(0);
+        Checks.same("as it was at last", w.restore(), true);
+        Checks.same("the same MOVES", w.undo(), 1);
+        Checks.same("with their bread", w.count(8), 0);
+    }
+
+    private static void anImageKeepsWhatIsUndone() {
+        DrawerWall w = Checks.wall("home 0 0 1;shop 1 0 1;home 2 0 1;person 0 wants 1;");
+        int[] kept = {2, 0, 1};
+        for (int d : kept) {
+            w.move(d);
+        }
+        w.image();
+        for (int i = 0; i < 3; i++) {
+            w.undo();
+        }
+        for (int d = 0; d < 3; d++) {
+            w.move(d);
+        }
+        Checks.same("as it was", w.restore(), true);
+        int[] due = {0b101, 0b100, 0};
+        for (int i = 0; i < 3; i++) {
+            Checks.same("left", w.undo(), 2 - i);
+            Checks.same("out", w.count(6), due[i]);
+            Checks.same("bread", w.count(8), 0);
+        }
     }
 
     private static void anImageInPlaceOfAnother() {
