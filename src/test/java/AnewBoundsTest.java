@@ -9,6 +9,8 @@ public final class AnewBoundsTest {
         "wall 1 9;reach 1;shop 0 0 9;home 0 1 8;home 0 2 7;stove 0 8 1;person 1 wants 0;person 2 wants 0;rule above<3;",
         "wall 4 2;home 0 0 1;home 1 0 2;home 2 0 3;home 3 0 4;wind 1;rent 1 0 0;person 3 weight 5;",
         "home 0 0 2;shop 0 1 1;rule out=1 or story=1 or shops=1;person 0 wants 1;",
+        "home 0 0 1;rule not 0;",
+        "home 0 0 1;rule 1;",
     };
     // Each tells much ahead of its FAULT.
     private static final String[] REFUSED = {
