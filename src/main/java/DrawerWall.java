@@ -806,7 +806,7 @@ public final class DrawerWall {
             return least < rules.size ? least : NONE;
         }
 
-        /** In the order of ExprReader.valueTold. */
+        /** In the order of RuleReader.valueTold. */
         private void lookAt(int drawer, int set) {
             values[0] = drawers.column[drawer];
             values[1] = drawers.story[drawer];
@@ -930,7 +930,7 @@ public final class DrawerWall {
 
         private final Tokens tokens;
         private final City city;
-        private final ExprReader exprs;
+        private final RuleReader rules;
         private boolean reachTold;
         private boolean rentTold;
         private boolean windTold;
@@ -939,7 +939,7 @@ public final class DrawerWall {
         CityReader(Tokens tokens, City city) {
             this.tokens = tokens;
             this.city = city;
-            this.exprs = new ExprReader(tokens, city.rules);
+            this.rules = new RuleReader(tokens, city.rules);
         }
 
         /** If there is a fault, the city is of no use. */
@@ -964,7 +964,7 @@ public final class DrawerWall {
                 return readPerson();
             }
             if (tokens.isWord("rule")) {
-                return readRule();
+                return rules.readRule();
             }
             if (tokens.isWord("wall")) {
                 return isFirst ? readWall() : tokens.refuse(TOLD_TWICE);
@@ -1153,22 +1153,10 @@ public final class DrawerWall {
             }
             return true;
         }
-
-        private boolean readRule() {
-            if (city.rules.size >= MOST_RULES) {
-                return tokens.refuse(TOO_MUCH);
-            }
-            tokens.advance();
-            if (!exprs.readExpr(0)) {
-                return false;
-            }
-            city.rules.endRule();
-            return true;
-        }
     }
 
-    /** Reads an EXPR into RULES: each sign behind the two parts that it joins. */
-    private static final class ExprReader {
+    /** Reads RULES, the EXPR of each with every sign behind the two parts that it joins. */
+    private static final class RuleReader {
         private static final int MOST_WITHIN = 6;
         private static final int MOST_NOTS = 6;
         private static final int OR_LEVEL = 0;
@@ -1181,21 +1169,24 @@ public final class DrawerWall {
         private final Tokens tokens;
         private final Rules rules;
 
-        ExprReader(Tokens tokens, Rules rules) {
+        RuleReader(Tokens tokens, Rules rules) {
             this.tokens = tokens;
             this.rules = rules;
         }
 
-        /** An EXPR within so many others. */
-        boolean readExpr(int within) {
-            if (within >= MOST_WITHIN) {
-                boolean canStand = tokens.isNumber() || tokens.isAnyWord() || tokens.isSign('(');
-                return tokens.refuse(canStand ? CityReader.TOO_MUCH : CityReader.CAN_NOT_STAND);
+        boolean readRule() {
+            if (rules.size >= MOST_RULES) {
+                return tokens.refuse(CityReader.TOO_MUCH);
             }
-            return readLevel(OR_LEVEL, within);
+            tokens.advance();
+            if (!readLevel(OR_LEVEL, 0)) {
+                return false;
+            }
+            rules.endRule();
+            return true;
         }
 
-        /** What the signs of a level join is of the next level. */
+        /** What the signs of a level join is of the next level; an EXPR within so many others is of the first. */
         private boolean readLevel(int level, int within) {
             if (level == NOT_LEVEL) {
                 return readNot(within);
@@ -1272,7 +1263,11 @@ public final class DrawerWall {
 
         private boolean readParenthesis(int within) {
             tokens.advance();
-            if (!readExpr(within + 1)) {
+            if (within + 1 >= MOST_WITHIN) {
+                boolean canStand = tokens.isNumber() || tokens.isAnyWord() || tokens.isSign('(');
+                return tokens.refuse(canStand ? CityReader.TOO_MUCH : CityReader.CAN_NOT_STAND);
+            }
+            if (!readLevel(OR_LEVEL, within + 1)) {
                 return false;
             }
             if (!tokens.isSign(')')) {
@@ -1405,6 +1400,9 @@ public final class DrawerWall {
             int at = place;
             for (int i = Math.min(length, steps.length) - 1; i >= 0 && at > 0 && at < size; i--) {
                 int from = found[at] >> STATE_BITS;
+                if (from < 0 || from >= at) {
+                    return;
+                }
                 int movedBit = (found[at] ^ found[from]) & outMask;
                 steps[i] = Integer.bitCount(movedBit - 1);
                 at = from;
